@@ -20,6 +20,7 @@ public final class MillDesk {
     private static final int MOST_GAIN = 200;
     private static final int MOST_BEND = 2000;
     private static final int MOST_AHEAD = 6;
+    private static final int ENDS_TOLD = 6;
     private static final int MOST_SPEED = 1000;
     private static final int MOST_DWELL = 1000;
     private static final int MOST_RADIUS = 300;
@@ -237,7 +238,7 @@ public final class MillDesk {
     }
 
     public int joint(int k) {
-        if (k < 0 || k >= MOST_AHEAD || !hasBlock()) return BAD;
+        if (k < 0 || k >= ENDS_TOLD || !hasBlock()) return BAD;
         int block = line;
         for (int i = 0; i < k && block != NONE; i++) {
             block = nexts[block];
@@ -651,7 +652,7 @@ public final class MillDesk {
         if (mode == RUNS) {
             pace = nextPace();
             goBy(pace);
-            // A BLOCK with a JOINT at its end is left at once, so this is an end without one.
+            // A BLOCK is left at once over a JOINT, so one with nothing left has none at its end.
             if (mode == RUNS && lengthLeft() == 0) endLine();
         } else if (mode == DWELLS && !holds) {
             dwellLeft--;
@@ -691,6 +692,7 @@ public final class MillDesk {
     }
 
     private void goBy(int length) {
+        // Planning never leads beyond an end without JOINT, so nothing is left over there.
         int left = length;
         for (int i = 0; i < MOST_FASTEST && left > 0 && mode == RUNS; i++) {
             int room = STEP_LENGTH - gone % STEP_LENGTH;

@@ -75,6 +75,10 @@ public final class ProgramTest {
         Due.is("cleared: word of no LINE", desk.word(false, 2, 1), MillDesk.BAD);
         Due.no("cleared: start", desk.start());
         Due.is("cleared: a new LINE is empty", desk.word(true, 2, 7), 1);
+        Due.load(desk, "X5 Y6 / Z7");
+        Due.load(desk, "X4");
+        Due.is("no word of a cleared LINE counts", desk.after(0, 1), 0);
+        Due.is("no cleared LINE counts", desk.after(1, 2), MillDesk.BAD);
         for (int i = 0; i < 30; i++) {
             desk.word(true, 8, 1);
         }
@@ -467,6 +471,7 @@ public final class ProgramTest {
         leads("X10 / G91 G92 X4 / X3 / G90 X3", 10, 0, 0, 10, 0, 0, 13, 0, 0, 9, 0, 0);
         leads("X10 / G92 X0 / X5 / G92 X1 / X0", 10, 0, 0, 10, 0, 0, 15, 0, 0, 15, 0, 0, 14, 0, 0);
         leads("X10 / G92 X0 / G28 X0 / X0", 10, 0, 0, 10, 0, 0, 0, 0, 0, 10, 0, 0);
+        leads("X10 Y7 Z6 / G92 Y2 Z5 / Y0 Z2", 10, 7, 6, 10, 7, 6, 10, 5, 3);
         leads("G20 G53 X4 / G92 X0 / G53 X5", 20, 0, 0, 20, 0, 0, 25, 0, 0);
         leads("X20 Y20 / G2 F500 I5 / G3 I3 J4 X28 Y24 / I0 J5", 20, 20, 0, 20, 20, 0, 28, 24, 0, 28, 24, 0);
         leads("X20 Y20 Z20 / G18 G3 F500 G91 Z6 K3 / G19 G2 Y8 J4", 20, 20, 20, 20, 20, 26, 20, 28, 26);

@@ -503,6 +503,8 @@ public final class RunTest {
         bend("X3 Y1 / X8 Y9", 0, 0);
         // c 25, m 35.
         bend("X3 Y1 Z2 / X8 Y9 Z3", 100, 250);
+        // c 15, m just 25.
+        bend("X5 / X8 Y4", 100, 150);
         bend("X10 / X20", 0, 800);
         // c is m, although the ways are not just in line: the root of 10001 * 10000 is 10000.
         bend("X100 Y1 / X200", 0, 800);
@@ -515,6 +517,11 @@ public final class RunTest {
     }
 
     private static void roundJoints() {
+        // Just in line with the DIRECTION at the start, and at the end, of ways round.
+        bend("Y30 / G2 F500 I10 X10 Y40", 0, 500);
+        bend("X30 / G3 F500 J10 X40 Y10", 0, 500);
+        bend("G2 F500 I10 X10 Y10 / G1 X30", 0, 500);
+        bend("G3 F500 J10 X10 Y10 / G1 Y30", 0, 500);
         joint("G1 F500 X30 / G3 J10 X40 Y10 / G1 Y50", 500, 500, 0);
         joint("G1 F500 X30 / G3 J10 X40 Y10 / G1 X50", 500, 0, 0);
         joint("Y40 / G1 F500 X30 / G2 J-10 X40 Y30 / G1 Y5", 0, 500, 500);
