@@ -9,7 +9,7 @@ public final class ModelTest {
         {-4, -3}, {3, -4}, {1, 0}, {0, -1}, {1, 1}, {-2, 1}, {7, 24}, {15, -20}, {20, 15}};
 
     private final Random random;
-    private final MillDesk desk = new MillDesk();
+    private final Desk desk = new Desk();
     private final Model model = new Model();
     private final int run;
     private final StringBuilder told = new StringBuilder();

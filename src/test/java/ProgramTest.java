@@ -22,16 +22,10 @@ public final class ProgramTest {
         Due.end("ProgramTest");
     }
 
-    private static void check(String program, int want) {
-        MillDesk desk = Due.with(program);
-        Due.is("check of " + program, desk.check(), want);
-        Due.is("start of " + program, desk.start() ? 1 : 0, want == 0 ? 1 : 0);
-    }
-
     // ---- promise 1 ----
 
     private static void newObject() {
-        MillDesk desk = new MillDesk();
+        Desk desk = new Desk();
         Due.state("new", desk, 0, 0, 0, -1, 0, 0, 0, 0, 0);
         Due.at("new", desk, 0, 0, 0);
         Due.is("new: check", desk.check(), 0);
@@ -42,20 +36,20 @@ public final class ProgramTest {
         Due.is("new: joint", desk.joint(0), MillDesk.BAD);
         Due.is("new: after", desk.after(0, 0), MillDesk.BAD);
         Due.is("new: word of no LINE", desk.word(false, 2, 1), MillDesk.BAD);
-        check("X1000 Y1000 Z1000", 0);
-        check("X1001", 6);
-        check("Y1001", 6);
-        check("Z1001", 6);
+        Due.check("X1000 Y1000 Z1000", 0);
+        Due.check("X1001", 6);
+        Due.check("Y1001", 6);
+        Due.check("Z1001", 6);
     }
 
     private static void newSettings() {
-        MillDesk desk = Due.started("X1000");
+        Desk desk = Due.started("X1000");
         Due.paces("GAIN 20", desk, 20, 40, 60);
         desk.advance(36);
         Due.paces("FASTEST 800", desk, 800, 800);
         // c 100, m 223: 400 * 100 / 123
         Due.is("BEND 400", Due.started("X10 / X20 Y20").joint(0), 325);
-        MillDesk ahead = Due.with("X1 / X2 / X3 / X4 / X5");
+        Desk ahead = Due.with("X1 / X2 / X3 / X4 / X5");
         ahead.set(3, 2000);
         ahead.set(4, 200);
         ahead.start();
@@ -66,7 +60,7 @@ public final class ProgramTest {
     // ---- promise 2 ----
 
     private static void clearing() {
-        MillDesk desk = new MillDesk();
+        Desk desk = new Desk();
         Due.yes("clear of nothing", desk.clear());
         Due.load(desk, "X5 / X6");
         Due.yes("clear", desk.clear());
@@ -87,7 +81,7 @@ public final class ProgramTest {
 
         String[] programs = {"X9", "G4 P9 / X9", "M0 / X9", "X9 / X10"};
         for (int i = 0; i < programs.length; i++) {
-            MillDesk busy = busy(programs[i], i + 1);
+            Desk busy = busy(programs[i], i + 1);
             Due.no("clear while " + (i + 1), busy.clear());
             busy.stop();
             Due.yes("the program of " + (i + 1) + " is still there", busy.start());
@@ -95,8 +89,8 @@ public final class ProgramTest {
     }
 
     /** A machine that is as state(0) tells: 1 RUNS, 2 DWELLS, 3 WAITS, 4 TRIPPED at X 1. */
-    private static MillDesk busy(String program, int mode) {
-        MillDesk desk = Due.with(program);
+    private static Desk busy(String program, int mode) {
+        Desk desk = Due.with(program);
         if (mode == 4) desk.trip(0, 1);
         desk.start();
         if (mode == 4) desk.advance(100);
@@ -107,7 +101,7 @@ public final class ProgramTest {
     // ---- promise 3 ----
 
     private static void words() {
-        MillDesk desk = new MillDesk();
+        Desk desk = new Desk();
         for (int[] w : REFUSED_WORDS) {
             Due.is("fresh word " + w[0] + " " + w[1], desk.word(true, w[0], w[1]), MillDesk.BAD);
         }
@@ -130,11 +124,11 @@ public final class ProgramTest {
         }
         Due.is("the last LINE is LINE 29", desk.word(false, 3, 1), 2);
         for (int mode = 1; mode <= 4; mode++) {
-            MillDesk busy = busy(mode == 2 ? "G4 P9" : mode == 3 ? "M0" : "X9", mode);
+            Desk busy = busy(mode == 2 ? "G4 P9" : mode == 3 ? "M0" : "X9", mode);
             Due.is("fresh word while " + mode, busy.word(true, 2, 1), MillDesk.BAD);
             Due.is("word while " + mode, busy.word(false, 3, 1), MillDesk.BAD);
         }
-        MillDesk all = new MillDesk();
+        Desk all = new Desk();
         for (int i = 0; i < 30; i++) {
             for (int k = 0; k < 8; k++) {
                 Due.is("word " + k + " of LINE " + i, all.word(k == 0, 2 + k % 3, i), k + 1);
@@ -147,7 +141,7 @@ public final class ProgramTest {
 
     private static void settings() {
         int[][] edges = {{1, 1000}, {1, 1000}, {1, 1000}, {1, 2000}, {1, 200}, {0, 2000}, {1, 6}};
-        MillDesk desk = new MillDesk();
+        Desk desk = new Desk();
         for (int what = 0; what < 7; what++) {
             Due.no("set " + what + " below", desk.set(what, edges[what][0] - 1));
             Due.no("set " + what + " above", desk.set(what, edges[what][1] + 1));
@@ -156,16 +150,18 @@ public final class ProgramTest {
             Due.yes("set " + what + " least", desk.set(what, edges[what][0]));
             Due.yes("set " + what + " most", desk.set(what, edges[what][1]));
         }
-        for (int v = -1; v <= 1000; v += 1) {
+        for (int v = -1; v <= 7; v++) {
             Due.no("set -1", desk.set(-1, v));
             Due.no("set 7", desk.set(7, v));
         }
+        Due.no("set -1", desk.set(-1, 1000));
+        Due.no("set 7", desk.set(7, 1000));
         Due.no("set the least int", desk.set(Integer.MIN_VALUE, 1));
         Due.no("set the greatest int", desk.set(Integer.MAX_VALUE, 1));
         limitsFromTheTool();
         settingsCount();
         for (int mode = 1; mode <= 4; mode++) {
-            MillDesk busy = busy(mode == 2 ? "G4 P9" : mode == 3 ? "M0" : "X9", mode);
+            Desk busy = busy(mode == 2 ? "G4 P9" : mode == 3 ? "M0" : "X9", mode);
             for (int what = 0; what < 7; what++) {
                 Due.no("set " + what + " while " + mode, busy.set(what, edges[what][1]));
             }
@@ -173,7 +169,7 @@ public final class ProgramTest {
     }
 
     private static void limitsFromTheTool() {
-        MillDesk desk = Due.started("X7 Y1 Z2");
+        Desk desk = Due.started("X7 Y1 Z2");
         desk.advance(1000);
         Due.no("LIMIT below the tool", desk.set(0, 6));
         Due.yes("LIMIT at the tool", desk.set(0, 7));
@@ -194,18 +190,18 @@ public final class ProgramTest {
     }
 
     private static void settingsCount() {
-        MillDesk desk = Due.with("X50 / X60 Y20");
+        Desk desk = Due.with("X50 / X60 Y20");
         desk.set(3, 70);
         desk.set(4, 30);
         desk.start();
         Due.paces("GAIN 30, FASTEST 70", desk, 30, 60, 70, 70);
-        MillDesk bent = Due.with("X10 / X20 Y20");
+        Desk bent = Due.with("X10 / X20 Y20");
         bent.set(5, 100);
         bent.start();
         Due.is("BEND 100", bent.joint(0), 81);
         int[][] wants = {{200, 400, 300, 100, 300, 433, 233, 34}, {200, 400, 600, 750, 550, 675, 756}};
         for (int ahead = 1; ahead <= 2; ahead++) {
-            MillDesk far = Due.with("X1 / X2 / X3 / X4 / X5 / X6 / X7 / X8");
+            Desk far = Due.with("X1 / X2 / X3 / X4 / X5 / X6 / X7 / X8");
             far.set(3, 2000);
             far.set(4, 200);
             far.set(6, ahead);
@@ -223,163 +219,163 @@ public final class ProgramTest {
             for (int k : known) {
                 there |= k == g;
             }
-            MillDesk desk = new MillDesk();
+            Desk desk = new Desk();
             desk.word(true, 0, g);
             Due.is("G" + g + " alone is none", desk.check() == 1 ? 1 : 0, there ? 0 : 1);
         }
         for (int m = -3; m <= 5; m++) {
-            check("M" + m, m == 0 || m == 2 ? 0 : 1);
+            Due.check("M" + m, m == 0 || m == 2 ? 0 : 1);
         }
-        check("F0", 1);
-        check("F-5", 1);
-        check("F1", 0);
-        check("F1000", 0);
-        check("F1001", 1);
-        check("G4 P-1", 1);
-        check("G4 P0", 0);
-        check("G4 P1000", 0);
-        check("G4 P1001", 1);
-        check("P-1", 1);
-        check("X1 X2 G5", 1);
-        check("X2000 F1001", 1);
+        Due.check("F0", 1);
+        Due.check("F-5", 1);
+        Due.check("F1", 0);
+        Due.check("F1000", 0);
+        Due.check("F1001", 1);
+        Due.check("G4 P-1", 1);
+        Due.check("G4 P0", 0);
+        Due.check("G4 P1000", 0);
+        Due.check("G4 P1001", 1);
+        Due.check("P-1", 1);
+        Due.check("X1 X2 G5", 1);
+        Due.check("X2000 F1001", 1);
         for (String twice : new String[] {"M0 M2", "M2 M2", "X1 X1", "Y1 Y2", "Z1 Z1", "G2 F9 I5 I5",
             "G2 F9 J5 J5", "G2 F9 K5 K5", "F5 F5", "G4 P1 P1", "P1 P1", "I1 I1"}) {
-            check(twice, 2);
+            Due.check(twice, 2);
         }
         for (String group : new String[] {"G0 G0", "G0 G1", "G2 G3", "G17 G18", "G19 G19", "G20 G21",
             "G90 G91", "G54 G55", "G4 G28 P1", "G53 G92 X1", "G28 G53 X1", "G4 G4 P1"}) {
-            check(group, 2);
+            Due.check(group, 2);
         }
-        check("G1 G17 G20 G90 G54 F10 X4 Y4", 0);
-        check("G0 G17 G21 G90 G54 G53 X4 M0", 0);
+        Due.check("G1 G17 G20 G90 G54 F10 X4 Y4", 0);
+        Due.check("G0 G17 G21 G90 G54 G53 X4 M0", 0);
     }
 
     private static void wrongByMixture() {
-        check("G4", 3);
-        check("P3", 3);
-        check("P0", 3);
-        check("X3 P0", 3);
-        check("I3", 3);
-        check("J0", 3);
-        check("G1 F9 K3", 3);
-        check("G2 F9 G28 X0 I3", 3);
-        check("G2 F9 G92 X0 J3", 3);
-        check("G2 F9 G4 P2 K3", 3);
-        check("G0 G53 X0 I3", 3);
-        check("G4 P2 X3", 3);
-        check("G4 P2 Y3", 3);
-        check("G4 P2 Z0", 3);
-        check("G28", 3);
-        check("G53", 3);
-        check("G92", 3);
-        check("G28 F100", 3);
-        check("G28 X0 G91", 3);
-        check("G91 / G28 Y0", 13);
-        check("G53 X0 G91", 3);
-        check("G91 / G53 Z0", 13);
-        check("G92 X0 G91", 0);
-        check("G91 / G90 G28 X0", 0);
-        check("G53 X0 G2 F9", 3);
-        check("G3 F9 / G53 Y0", 13);
-        check("G3 F9 / G1 G53 Y0", 0);
-        check("G3 / G28 X0 / G92 X0 / G4 P1 / G20 / M0", 0);
-        check("G1 X5 P3", 3);
-        check("G4 P2 F5 G1 G18 G91 G55 M0", 0);
+        Due.check("G4", 3);
+        Due.check("P3", 3);
+        Due.check("P0", 3);
+        Due.check("X3 P0", 3);
+        Due.check("I3", 3);
+        Due.check("J0", 3);
+        Due.check("G1 F9 K3", 3);
+        Due.check("G2 F9 G28 X0 I3", 3);
+        Due.check("G2 F9 G92 X0 J3", 3);
+        Due.check("G2 F9 G4 P2 K3", 3);
+        Due.check("G0 G53 X0 I3", 3);
+        Due.check("G4 P2 X3", 3);
+        Due.check("G4 P2 Y3", 3);
+        Due.check("G4 P2 Z0", 3);
+        Due.check("G28", 3);
+        Due.check("G53", 3);
+        Due.check("G92", 3);
+        Due.check("G28 F100", 3);
+        Due.check("G28 X0 G91", 3);
+        Due.check("G91 / G28 Y0", 13);
+        Due.check("G53 X0 G91", 3);
+        Due.check("G91 / G53 Z0", 13);
+        Due.check("G92 X0 G91", 0);
+        Due.check("G91 / G90 G28 X0", 0);
+        Due.check("G53 X0 G2 F9", 3);
+        Due.check("G3 F9 / G53 Y0", 13);
+        Due.check("G3 F9 / G1 G53 Y0", 0);
+        Due.check("G3 / G28 X0 / G92 X0 / G4 P1 / G20 / M0", 0);
+        Due.check("G1 X5 P3", 3);
+        Due.check("G4 P2 F5 G1 G18 G91 G55 M0", 0);
     }
 
     private static void wrongBySpeed() {
-        check("G1 X4", 4);
-        check("G1 Z0", 4);
-        check("G1 G53 X4", 4);
-        check("G1 / X4", 14);
-        check("G2 I5", 4);
-        check("G2 X5", 4);
-        check("G1 X2000", 4);
-        check("G1 X4 F1", 0);
-        check("F1 / G1 X4", 0);
-        check("G1 / G28 X0", 0);
-        check("G1 / G92 X4", 0);
-        check("G1 / G4 P3", 0);
-        check("G1 / G0 X4", 0);
-        check("G1", 0);
+        Due.check("G1 X4", 4);
+        Due.check("G1 Z0", 4);
+        Due.check("G1 G53 X4", 4);
+        Due.check("G1 / X4", 14);
+        Due.check("G2 I5", 4);
+        Due.check("G2 X5", 4);
+        Due.check("G1 X2000", 4);
+        Due.check("G1 X4 F1", 0);
+        Due.check("F1 / G1 X4", 0);
+        Due.check("G1 / G28 X0", 0);
+        Due.check("G1 / G92 X4", 0);
+        Due.check("G1 / G4 P3", 0);
+        Due.check("G1 / G0 X4", 0);
+        Due.check("G1", 0);
     }
 
     private static void wrongByRound() {
         String at = "X400 Y400 Z400 / F9 ";
-        check(at + "G2 X405", 15);
-        check(at + "G2 X400", 15);
-        check(at + "G2 K5", 15);
-        check(at + "G2 I5 K0", 15);
-        check(at + "G2 I5 Z400", 15);
-        check(at + "G18 G2 J5", 15);
-        check(at + "G18 G2 K5 J0", 15);
-        check(at + "G18 G2 K5 Y400", 15);
-        check(at + "G19 G2 I5", 15);
-        check(at + "G19 G2 J5 I0", 15);
-        check(at + "G19 G2 J5 X400", 15);
-        check(at + "G2 I0 J0", 15);
-        check(at + "G2 J0", 15);
-        check(at + "G2 I301", 15);
-        check(at + "G3 J-301", 15);
-        check(at + "G2 I181 J240", 15);
-        check(at + "G2 I3000", 15);
-        check(at + "G20 G2 I61", 15);
-        check(at + "G20 G2 I-3000 J-3000 X3000 Y-3000", 15);
-        check(at + "G2 I5 X411", 15);
-        check(at + "G2 I5 X409", 15);
-        check(at + "G2 I5 X410 Y401", 15);
-        check(at + "G2 I5 X3000", 15);
-        check(at + "G2 I5", 0);
-        check(at + "G3 J-5 X405 Y395", 0);
-        check(at + "G2 I5 X410 Y400", 0);
-        check(at + "G2 I300", 0);
-        check(at + "G2 I180 J240", 0);
-        check(at + "G20 G2 I60", 0);
-        check(at + "G91 G3 I-3 J-4 X2 Y-8", 15);
-        check(at + "G91 G3 I-3 J-4 X-6 Y-8", 0);
-        check(at + "G91 G3 I-3 J-4 X1 Y-1", 0);
-        check(at + "G18 G2 K5 I-12 Z417 X393", 0);
-        check(at + "G18 G2 I300", 0);
-        check(at + "G19 G2 J5 Y410", 0);
-        check(at + "G19 G2 K-5 Z390", 0);
+        Due.check(at + "G2 X405", 15);
+        Due.check(at + "G2 X400", 15);
+        Due.check(at + "G2 K5", 15);
+        Due.check(at + "G2 I5 K0", 15);
+        Due.check(at + "G2 I5 Z400", 15);
+        Due.check(at + "G18 G2 J5", 15);
+        Due.check(at + "G18 G2 K5 J0", 15);
+        Due.check(at + "G18 G2 K5 Y400", 15);
+        Due.check(at + "G19 G2 I5", 15);
+        Due.check(at + "G19 G2 J5 I0", 15);
+        Due.check(at + "G19 G2 J5 X400", 15);
+        Due.check(at + "G2 I0 J0", 15);
+        Due.check(at + "G2 J0", 15);
+        Due.check(at + "G2 I301", 15);
+        Due.check(at + "G3 J-301", 15);
+        Due.check(at + "G2 I181 J240", 15);
+        Due.check(at + "G2 I3000", 15);
+        Due.check(at + "G20 G2 I61", 15);
+        Due.check(at + "G20 G2 I-3000 J-3000 X3000 Y-3000", 15);
+        Due.check(at + "G2 I5 X411", 15);
+        Due.check(at + "G2 I5 X409", 15);
+        Due.check(at + "G2 I5 X410 Y401", 15);
+        Due.check(at + "G2 I5 X3000", 15);
+        Due.check(at + "G2 I5", 0);
+        Due.check(at + "G3 J-5 X405 Y395", 0);
+        Due.check(at + "G2 I5 X410 Y400", 0);
+        Due.check(at + "G2 I300", 0);
+        Due.check(at + "G2 I180 J240", 0);
+        Due.check(at + "G20 G2 I60", 0);
+        Due.check(at + "G91 G3 I-3 J-4 X2 Y-8", 15);
+        Due.check(at + "G91 G3 I-3 J-4 X-6 Y-8", 0);
+        Due.check(at + "G91 G3 I-3 J-4 X1 Y-1", 0);
+        Due.check(at + "G18 G2 K5 I-12 Z417 X393", 0);
+        Due.check(at + "G18 G2 I300", 0);
+        Due.check(at + "G19 G2 J5 Y410", 0);
+        Due.check(at + "G19 G2 K-5 Z390", 0);
     }
 
     private static void wrongByLimit() {
-        check("X1001", 6);
-        check("X-1", 6);
-        check("Y-1", 6);
-        check("Z-1", 6);
-        check("X1000 / G91 X1", 16);
-        check("G53 X1001", 6);
-        check("G20 X200", 0);
-        check("G20 X201", 6);
-        check("X5 / G92 X6 / X0", 26);
-        check("X5 / G92 X5 / X0", 0);
+        Due.check("X1001", 6);
+        Due.check("X-1", 6);
+        Due.check("Y-1", 6);
+        Due.check("Z-1", 6);
+        Due.check("X1000 / G91 X1", 16);
+        Due.check("G53 X1001", 6);
+        Due.check("G20 X200", 0);
+        Due.check("G20 X201", 6);
+        Due.check("X5 / G92 X6 / X0", 26);
+        Due.check("X5 / G92 X5 / X0", 0);
         // The circle of radius 5 reaches from 0 to 10 across.
-        check("X5 Y5 / G2 F9 I5", 0);
-        check("X5 Y4 / G2 F9 I5", 16);
-        check("X5 Y4 / G2 F9 I5 X15", 0);
-        check("X5 Y4 / G3 F9 I5 X15", 16);
-        check("X990 Y500 / G2 F9 I5", 0);
-        check("X991 Y500 / G2 F9 I5", 16);
-        check("Y5 Z995 / G19 G2 F9 J5", 0);
-        check("Y5 Z996 / G19 G2 F9 J5", 16);
-        check("X995 Z5 / G18 G2 F9 K5", 0);
-        check("X996 Z5 / G18 G2 F9 K5", 16);
+        Due.check("X5 Y5 / G2 F9 I5", 0);
+        Due.check("X5 Y4 / G2 F9 I5", 16);
+        Due.check("X5 Y4 / G2 F9 I5 X15", 0);
+        Due.check("X5 Y4 / G3 F9 I5 X15", 16);
+        Due.check("X990 Y500 / G2 F9 I5", 0);
+        Due.check("X991 Y500 / G2 F9 I5", 16);
+        Due.check("Y5 Z995 / G19 G2 F9 J5", 0);
+        Due.check("Y5 Z996 / G19 G2 F9 J5", 16);
+        Due.check("X995 Z5 / G18 G2 F9 K5", 0);
+        Due.check("X996 Z5 / G18 G2 F9 K5", 16);
         // The first of several WRONG LINES, and LINES behind END.
-        check("X5 / G5 / X2000", 11);
-        check("X5 / X6 M2 / G5 / X2000", 0);
-        check("M2 / G5", 0);
-        check("M0 / G5", 11);
+        Due.check("X5 / G5 / X2000", 11);
+        Due.check("X5 / X6 M2 / G5 / X2000", 0);
+        Due.check("M2 / G5", 0);
+        Due.check("M0 / G5", 11);
         StringBuilder long29 = new StringBuilder("X1");
         for (int i = 1; i < 29; i++) {
             long29.append(" / X").append(i);
         }
-        check(long29 + " / X1001", 296);
+        Due.check(long29 + " / X1001", 296);
     }
 
     private static void checkingWhileRunning() {
-        MillDesk desk = Due.with("G91 X600 / G4 P5 / M0");
+        Desk desk = Due.with("G91 X600 / G4 P5 / M0");
         Due.is("before: after", desk.after(0, 0), 600);
         desk.start();
         desk.advance(100);
@@ -395,7 +391,7 @@ public final class ProgramTest {
         Due.is("stopped: after", desk.after(0, 0), MillDesk.BAD);
         Due.no("stopped: start", desk.start());
         Due.at("stopped", desk, 600, 0, 0);
-        MillDesk tripped = Due.with("G91 X600");
+        Desk tripped = Due.with("G91 X600");
         tripped.trip(0, 450);
         tripped.start();
         tripped.advance(3000);
@@ -408,7 +404,7 @@ public final class ProgramTest {
     // ---- promise 6 ----
 
     private static void starting() {
-        MillDesk desk = Due.with("X5");
+        Desk desk = Due.with("X5");
         Due.yes("start", desk.start());
         Due.state("started", desk, 1, 0, 0, 0, 0, 5, 0, 0, 0);
         Due.no("start while it RUNS", desk.start());
@@ -418,7 +414,7 @@ public final class ProgramTest {
         Due.no("start while it DWELLS", Due.started("G4 P5").start());
         Due.no("start while it WAITS", Due.started("M0").start());
         Due.no("start while TRIPPED", busy("X5", 4).start());
-        MillDesk wrong = Due.with("X5 / X1001");
+        Desk wrong = Due.with("X5 / X1001");
         Due.no("start of a WRONG program", wrong.start());
         wrong.advance(100);
         Due.at("a WRONG program does nothing", wrong, 0, 0, 0);
@@ -426,7 +422,7 @@ public final class ProgramTest {
 
     /** What a program has put in force does not last into the next run. */
     private static void inForceAtTheBeginning() {
-        MillDesk desk = Due.with("X5 / G91 G20 G55 G18 G1 F500 / G92 X3 / G54 G92 X1");
+        Desk desk = Due.with("X5 / G91 G20 G55 G18 G1 F500 / G92 X3 / G54 G92 X1");
         desk.start();
         desk.advance(1000);
         Due.is("at its end", desk.state(0), 0);
@@ -445,43 +441,29 @@ public final class ProgramTest {
 
     // ---- promise 14, and what LINES do ----
 
-    private static void leads(String program, int... wants) {
-        MillDesk desk = Due.with(program);
-        for (int i = 0; i < wants.length; i++) {
-            Due.is("after(" + i / 3 + ", " + i % 3 + ") of " + program, desk.after(i / 3, i % 3), wants[i]);
-        }
-        desk.start();
-        for (int i = 0; i < 100 && desk.state(0) != 0; i++) {
-            desk.advance(3000);
-            desk.resume();
-        }
-        int last = wants.length - 3;
-        Due.at("at the end of " + program, desk, wants[last], wants[last + 1], wants[last + 2]);
-    }
-
     private static void places() {
-        leads("X10 / Y20 / Z30 X1", 10, 0, 0, 10, 20, 0, 1, 20, 30);
-        leads("X10 / G91 X5 Y2 / X-3 / G90 X1", 10, 0, 0, 15, 2, 0, 12, 2, 0, 1, 2, 0);
-        leads("G20 X3 / G21 X4 / G91 G20 X2", 15, 0, 0, 4, 0, 0, 14, 0, 0);
-        leads("X10 Y10 Z10 / G28 Y500 / G28 X-3 Z7", 10, 10, 10, 10, 0, 10, 0, 0, 0);
-        leads("X10 / G92 X0 / X5 / Y5", 10, 0, 0, 10, 0, 0, 15, 0, 0, 15, 5, 0);
-        leads("X10 / G92 X2 Y-3 / X5 Y1 / G53 X5 Y1 / X5", 10, 0, 0, 10, 0, 0, 13, 4, 0, 5, 1, 0, 13, 1, 0);
-        leads("X10 / G55 G92 X0 / X5 / G54 X5 / G55 X1", 10, 0, 0, 10, 0, 0, 15, 0, 0, 5, 0, 0, 11, 0, 0);
-        leads("G20 X4 / G92 X1 / G21 X0 / G91 X1", 20, 0, 0, 20, 0, 0, 15, 0, 0, 16, 0, 0);
-        leads("X10 / G91 G92 X4 / X3 / G90 X3", 10, 0, 0, 10, 0, 0, 13, 0, 0, 9, 0, 0);
-        leads("X10 / G92 X0 / X5 / G92 X1 / X0", 10, 0, 0, 10, 0, 0, 15, 0, 0, 15, 0, 0, 14, 0, 0);
-        leads("X10 / G92 X0 / G28 X0 / X0", 10, 0, 0, 10, 0, 0, 0, 0, 0, 10, 0, 0);
-        leads("X10 Y7 Z6 / G92 Y2 Z5 / Y0 Z2", 10, 7, 6, 10, 7, 6, 10, 5, 3);
-        leads("G20 G53 X4 / G92 X0 / G53 X5", 20, 0, 0, 20, 0, 0, 25, 0, 0);
-        leads("X20 Y20 / G2 F500 I5 / G3 I3 J4 X28 Y24 / I0 J5", 20, 20, 0, 20, 20, 0, 28, 24, 0, 28, 24, 0);
-        leads("X20 Y20 Z20 / G18 G3 F500 G91 Z6 K3 / G19 G2 Y8 J4", 20, 20, 20, 20, 20, 26, 20, 28, 26);
-        leads("X20 Y20 / G92 X0 Y0 / G2 F500 I5 X10 / G20 G91 G3 J2 Y4",
+        Due.leads("X10 / Y20 / Z30 X1", 10, 0, 0, 10, 20, 0, 1, 20, 30);
+        Due.leads("X10 / G91 X5 Y2 / X-3 / G90 X1", 10, 0, 0, 15, 2, 0, 12, 2, 0, 1, 2, 0);
+        Due.leads("G20 X3 / G21 X4 / G91 G20 X2", 15, 0, 0, 4, 0, 0, 14, 0, 0);
+        Due.leads("X10 Y10 Z10 / G28 Y500 / G28 X-3 Z7", 10, 10, 10, 10, 0, 10, 0, 0, 0);
+        Due.leads("X10 / G92 X0 / X5 / Y5", 10, 0, 0, 10, 0, 0, 15, 0, 0, 15, 5, 0);
+        Due.leads("X10 / G92 X2 Y-3 / X5 Y1 / G53 X5 Y1 / X5", 10, 0, 0, 10, 0, 0, 13, 4, 0, 5, 1, 0, 13, 1, 0);
+        Due.leads("X10 / G55 G92 X0 / X5 / G54 X5 / G55 X1", 10, 0, 0, 10, 0, 0, 15, 0, 0, 5, 0, 0, 11, 0, 0);
+        Due.leads("G20 X4 / G92 X1 / G21 X0 / G91 X1", 20, 0, 0, 20, 0, 0, 15, 0, 0, 16, 0, 0);
+        Due.leads("X10 / G91 G92 X4 / X3 / G90 X3", 10, 0, 0, 10, 0, 0, 13, 0, 0, 9, 0, 0);
+        Due.leads("X10 / G92 X0 / X5 / G92 X1 / X0", 10, 0, 0, 10, 0, 0, 15, 0, 0, 15, 0, 0, 14, 0, 0);
+        Due.leads("X10 / G92 X0 / G28 X0 / X0", 10, 0, 0, 10, 0, 0, 0, 0, 0, 10, 0, 0);
+        Due.leads("X10 Y7 Z6 / G92 Y2 Z5 / Y0 Z2", 10, 7, 6, 10, 7, 6, 10, 5, 3);
+        Due.leads("G20 G53 X4 / G92 X0 / G53 X5", 20, 0, 0, 20, 0, 0, 25, 0, 0);
+        Due.leads("X20 Y20 / G2 F500 I5 / G3 I3 J4 X28 Y24 / I0 J5", 20, 20, 0, 20, 20, 0, 28, 24, 0, 28, 24, 0);
+        Due.leads("X20 Y20 Z20 / G18 G3 F500 G91 Z6 K3 / G19 G2 Y8 J4", 20, 20, 20, 20, 20, 26, 20, 28, 26);
+        Due.leads("X20 Y20 / G92 X0 Y0 / G2 F500 I5 X10 / G20 G91 G3 J2 Y4",
             20, 20, 0, 20, 20, 0, 30, 20, 0, 30, 40, 0);
-        leads("X5 / G4 P3 / M0 / X6 M0 / X7 M2", 5, 0, 0, 5, 0, 0, 5, 0, 0, 6, 0, 0, 7, 0, 0);
+        Due.leads("X5 / G4 P3 / M0 / X6 M0 / X7 M2", 5, 0, 0, 5, 0, 0, 5, 0, 0, 6, 0, 0, 7, 0, 0);
     }
 
     private static void behindLines() {
-        MillDesk desk = Due.with("X5 / X6 / X7 M2 / X8");
+        Desk desk = Due.with("X5 / X6 / X7 M2 / X8");
         Due.is("behind END'S LINE", desk.after(2, 0), 7);
         Due.is("END before it", desk.after(3, 0), MillDesk.BAD);
         Due.is("no such LINE", desk.after(4, 0), MillDesk.BAD);
@@ -493,7 +475,7 @@ public final class ProgramTest {
         Due.is("axis 3", desk.after(0, 3), MillDesk.BAD);
         Due.is("the least axis", desk.after(0, Integer.MIN_VALUE), MillDesk.BAD);
         Due.is("the greatest axis", desk.after(0, Integer.MAX_VALUE), MillDesk.BAD);
-        MillDesk wrong = Due.with("X5 / X6 / X1001 / X7");
+        Desk wrong = Due.with("X5 / X6 / X1001 / X7");
         Due.is("before the WRONG LINE", wrong.after(1, 0), 6);
         Due.is("the WRONG LINE", wrong.after(2, 0), MillDesk.BAD);
         Due.is("behind the WRONG LINE", wrong.after(3, 0), MillDesk.BAD);

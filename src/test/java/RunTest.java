@@ -23,19 +23,10 @@ public final class RunTest {
         Due.end("RunTest");
     }
 
-    /** A quick machine: GAIN 200, FASTEST 2000. */
-    private static MillDesk quick(String program) {
-        MillDesk desk = Due.with(program);
-        desk.set(3, 2000);
-        desk.set(4, 200);
-        Due.yes("start of " + program, desk.start());
-        return desk;
-    }
-
     // ---- promise 7 ----
 
     private static void advancing() {
-        MillDesk desk = new MillDesk();
+        Desk desk = new Desk();
         Due.is("advance(-1)", desk.advance(-1), MillDesk.BAD);
         Due.is("advance(3001)", desk.advance(3001), MillDesk.BAD);
         Due.is("advance of the least int", desk.advance(Integer.MIN_VALUE), MillDesk.BAD);
@@ -45,7 +36,7 @@ public final class RunTest {
         Due.is("no tick", desk.state(8), 0);
         Due.is("advance(3000)", desk.advance(3000), 0);
         Due.is("ticks while it STANDS", desk.state(8), 3000);
-        MillDesk runs = Due.started("X5");
+        Desk runs = Due.started("X5");
         runs.advance(3);
         Due.is("advance(-1) while it RUNS", runs.advance(-1), MillDesk.BAD);
         Due.is("advance(3001) while it RUNS", runs.advance(3001), MillDesk.BAD);
@@ -59,13 +50,13 @@ public final class RunTest {
         Due.way("3, 1", Due.started("X3 Y1"), 0, 1, 1, 0, 2, 1, 3, 1);
         Due.way("1, 3", Due.started("X1 Y3"), 0, 1, 0, 1, 1, 2, 1, 3);
         Due.way("4, 2", Due.started("Z4 Y2"), 2, 1, 1, 1, 2, 1, 3, 2, 4, 2);
-        MillDesk back = Due.started("X5 Y4 Z4 / M0 / G1 F50 X0 Y2 Z4");
+        Desk back = Due.started("X5 Y4 Z4 / M0 / G1 F50 X0 Y2 Z4");
         back.advance(1000);
         back.resume();
         // Of 2: (4 + 5) / 10, (8 + 5) / 10, (12 + 5) / 10, (16 + 5) / 10.
         Due.way("back 5, 2", back, 0, 1, 4, 4, 3, 3, 2, 3, 1, 2, 0, 2);
         Due.is("Z did not move", back.at(2), 4);
-        MillDesk home = Due.started("X2 Y4 / M0 / G1 / G28 X9 Y9");
+        Desk home = Due.started("X2 Y4 / M0 / G1 / G28 X9 Y9");
         home.advance(1000);
         home.resume();
         Due.way("home 2, 4", home, 0, 1, 1, 3, 1, 2, 0, 1, 0, 0);
@@ -77,37 +68,37 @@ public final class RunTest {
         String[] planes = {"X12 Y10 / M0 / F99 G17 I-2", "Z12 X10 / M0 / F99 G18 K-2", "Y12 Z10 / M0 / F99 G19 J-2"};
         int[][] axes = {{0, 1}, {2, 0}, {1, 2}};
         for (int i = 0; i < 3; i++) {
-            MillDesk turnsOn = Due.started(planes[i] + " G3");
+            Desk turnsOn = Due.started(planes[i] + " G3");
             turnsOn.advance(1000);
             turnsOn.resume();
             Due.is("STEPS once round", turnsOn.state(5), 12);
             Due.way("on in plane " + (17 + i), turnsOn, axes[i][0], axes[i][1], on);
             Due.is("once round is the end", turnsOn.state(0), 0);
-            MillDesk turnsBack = Due.started(planes[i] + " G2");
+            Desk turnsBack = Due.started(planes[i] + " G2");
             turnsBack.advance(1000);
             turnsBack.resume();
             Due.way("back in plane " + (17 + i), turnsBack, axes[i][0], axes[i][1], back);
             Due.is("once round is the end", turnsBack.state(0), 0);
         }
-        MillDesk quarter = Due.started("X12 Y10 / M0 / F99 G3 I-2 X10 Y12");
+        Desk quarter = Due.started("X12 Y10 / M0 / F99 G3 I-2 X10 Y12");
         quarter.advance(1000);
         quarter.resume();
         Due.is("STEPS of a quarter", quarter.state(5), 3);
         Due.way("a quarter", quarter, 0, 1, 12, 11, 11, 12, 10, 12);
         Due.is("a quarter is the end", quarter.state(0), 0);
-        MillDesk one = Due.started("X1 Y1 / M0 / F99 G2 I1");
+        Desk one = Due.started("X1 Y1 / M0 / F99 G2 I1");
         one.advance(1000);
         one.resume();
         Due.way("radius 1", one, 0, 1, 1, 2, 2, 2, 3, 2, 3, 1, 3, 0, 2, 0, 1, 0, 1, 1);
     }
 
     private static void paces() {
-        MillDesk desk = quick("X5");
+        Desk desk = Due.quick("X5");
         Due.paces("5000 long", desk, 200, 400, 600, 800, 1000, 800, 600, 400);
         Due.is("not there", desk.state(0), 1);
         Due.is("the last STEP", desk.advance(1), 1);
         Due.state("there", desk, 0, 0, 0, -1, 0, 0, 0, 5, 9);
-        MillDesk slow = Due.with("G1 F30 X2");
+        Desk slow = Due.with("G1 F30 X2");
         slow.start();
         Due.paces("SPEED 30", slow, 20, 30, 30, 30);
         // 20 and 65 times 30 are 1970; with 30 left 30 + 10 is too much, 25 + 5 is not.
@@ -115,11 +106,11 @@ public final class RunTest {
         Due.paces("the last but one", slow, 30 - 5);
         Due.is("the end", slow.advance(1), 1);
         Due.state("the end", slow, 0, 0, 0, -1, 0, 0, 0, 2, 68);
-        MillDesk fastest = Due.with("G1 F500 X50");
+        Desk fastest = Due.with("G1 F500 X50");
         fastest.set(3, 50);
         fastest.start();
         Due.paces("FASTEST below the SPEED", fastest, 20, 40, 50, 50);
-        MillDesk crawl = Due.with("G1 F1 X1");
+        Desk crawl = Due.with("G1 F1 X1");
         crawl.start();
         Due.is("a STEP at pace 1 takes 1000 ticks", crawl.advance(999), 0);
         Due.is("the last tick", crawl.advance(1), 1);
@@ -127,7 +118,7 @@ public final class RunTest {
     }
 
     private static void manyStepsInATick() {
-        MillDesk desk = quick("X100");
+        Desk desk = Due.quick("X100");
         Due.is("ten ticks", desk.advance(10), 11);
         Due.is("pace 2000", desk.state(2), 2000);
         Due.is("two STEPS in a tick", desk.advance(1), 2);
@@ -137,7 +128,7 @@ public final class RunTest {
         for (int i = 2; i <= 30; i++) {
             ones.append(" / X").append(i);
         }
-        MillDesk blocks = Due.with(ones.toString());
+        Desk blocks = Due.with(ones.toString());
         blocks.set(3, 2000);
         blocks.set(4, 200);
         blocks.set(6, 6);
@@ -157,7 +148,7 @@ public final class RunTest {
     }
 
     private static void overJoints() {
-        MillDesk desk = Due.with("G1 F300 X2 / F100 X4");
+        Desk desk = Due.with("G1 F300 X2 / F100 X4");
         desk.set(4, 50);
         desk.start();
         Due.is("the lesser SPEED", desk.joint(0), 100);
@@ -168,20 +159,20 @@ public final class RunTest {
         Due.paces("down", desk, 250);
         Due.is("STEPS done", desk.state(4), 1);
         Due.is("STEPS left", desk.state(5), 1);
-        MillDesk corner = quick("X1 / Y1");
+        Desk corner = Due.quick("X1 / Y1");
         Due.paces("to the corner", corner, 200, 400, 300);
         Due.is("before the corner", corner.state(3), 0);
         Due.paces("at the corner the pace stays", corner, 100);
         Due.state("the next is at hand", corner, 1, 0, 100, 1, 0, 1, 0, 1, 4);
         Due.paces("from the corner", corner, 300);
-        MillDesk tied = quick("X1 / G4 P0 / G92 X0 / X0 / G53 X1 / G91 / X1");
+        Desk tied = Due.quick("X1 / G4 P0 / G92 X0 / X0 / G53 X1 / G91 / X1");
         Due.is("nothing between that takes ticks", tied.joint(0), 2000);
     }
 
     // ---- promises 8 and 9 ----
 
     private static void holding() {
-        MillDesk desk = Due.started("X100");
+        Desk desk = Due.started("X100");
         desk.advance(5);
         Due.yes("hold", desk.hold());
         Due.is("it HOLDS", desk.state(1), 1);
@@ -193,13 +184,13 @@ public final class RunTest {
         Due.is("it HOLDS no more", desk.state(1), 0);
         Due.no("resume again", desk.resume());
         Due.paces("up", desk, 20, 40);
-        MillDesk between = Due.with("G1 F50 X9");
+        Desk between = Due.with("G1 F50 X9");
         between.set(4, 30);
         between.start();
         between.advance(2);
         between.hold();
         Due.paces("50 less 30, then 0", between, 20, 0, 0);
-        MillDesk dwells = Due.started("G4 P5 / X1");
+        Desk dwells = Due.started("G4 P5 / X1");
         Due.yes("hold of a DWELL", dwells.hold());
         dwells.advance(10);
         Due.state("a held DWELL", dwells, 2, 1, 0, 0, 0, 0, 5, 0, 10);
@@ -213,7 +204,7 @@ public final class RunTest {
         String[] programs = {"X1", "X1 / G4 P5", "X1 M0"};
         int[] modes = {0, 2, 3};
         for (int i = 0; i < 3; i++) {
-            MillDesk desk = quick(programs[i]);
+            Desk desk = Due.quick(programs[i]);
             desk.advance(3);
             Due.is("900 gone", desk.state(2), 300);
             desk.hold();
@@ -222,7 +213,7 @@ public final class RunTest {
             Due.is("HOLDS behind " + programs[i], desk.state(1), modes[i] == 2 ? 1 : 0);
             Due.is("pace behind " + programs[i], desk.state(2), 0);
         }
-        MillDesk dwells = quick("X1 / G4 P5 / X2");
+        Desk dwells = Due.quick("X1 / G4 P5 / X2");
         dwells.advance(3);
         dwells.hold();
         dwells.advance(50);
@@ -230,7 +221,7 @@ public final class RunTest {
         dwells.resume();
         dwells.advance(5);
         Due.state("the DWELL is over", dwells, 1, 0, 0, 2, 0, 1, 0, 1, 58);
-        MillDesk trips = quick("X9");
+        Desk trips = Due.quick("X9");
         trips.trip(0, 3);
         trips.advance(4);
         trips.hold();
@@ -238,7 +229,7 @@ public final class RunTest {
         Due.is("HOLDS on its way", trips.state(1), 1);
         Due.is("3000 gone", trips.advance(1), 1);
         Due.state("TRIPPED while it HELD", trips, 4, 0, 0, 0, 3, 6, 0, 3, 6);
-        MillDesk over = quick("X2 / X9");
+        Desk over = Due.quick("X2 / X9");
         over.advance(4);
         over.hold();
         over.advance(1);
@@ -246,11 +237,11 @@ public final class RunTest {
     }
 
     private static void resuming() {
-        Due.no("resume while it STANDS", new MillDesk().resume());
-        MillDesk desk = Due.started("X3");
+        Due.no("resume while it STANDS", new Desk().resume());
+        Desk desk = Due.started("X3");
         Due.no("resume while it RUNS", desk.resume());
         Due.no("resume while it DWELLS", Due.started("G4 P3").resume());
-        MillDesk waits = Due.started("M0 / M0 / G4 P2 M0 / X1 M0 / M0");
+        Desk waits = Due.started("M0 / M0 / G4 P2 M0 / X1 M0 / M0");
         int[] modes = {3, 3, 2, 1, 3, 0};
         int[] lines = {0, 1, 2, 3, 4, -1};
         for (int i = 0; i < modes.length; i++) {
@@ -262,7 +253,7 @@ public final class RunTest {
             Due.is("resume " + i, waits.resume() ? 1 : 0, modes[i] == 0 ? 0 : 1);
         }
         Due.is("the way was gone", waits.at(0), 1);
-        MillDesk tripped = Due.with("X3");
+        Desk tripped = Due.with("X3");
         tripped.trip(0, 1);
         tripped.start();
         tripped.advance(100);
@@ -273,7 +264,7 @@ public final class RunTest {
     // ---- promise 10 ----
 
     private static void stopping() {
-        MillDesk desk = new MillDesk();
+        Desk desk = new Desk();
         Due.no("stop while it STANDS", desk.stop());
         Due.load(desk, "X10 / G4 P9 / M0");
         desk.start();
@@ -297,7 +288,7 @@ public final class RunTest {
         desk.hold();
         Due.yes("stop while it DWELLS", desk.stop());
         Due.state("stopped", desk, 0, 0, 0, -1, 0, 0, 0, 10, 1115);
-        MillDesk part = Due.started("X5");
+        Desk part = Due.started("X5");
         part.advance(5);
         part.stop();
         part.start();
@@ -310,7 +301,7 @@ public final class RunTest {
     // ---- promise 11 ----
 
     private static void tripping() {
-        MillDesk desk = Due.with("X10 / X20");
+        Desk desk = Due.with("X10 / X20");
         Due.yes("trip", desk.trip(0, 4));
         desk.start();
         Due.is("joint before", desk.joint(0), 800);
@@ -341,24 +332,24 @@ public final class RunTest {
     }
 
     private static void trippingAtEnds() {
-        MillDesk joined = Due.with("X3 / X6");
+        Desk joined = Due.with("X3 / X6");
         joined.trip(0, 3);
         joined.start();
         joined.advance(3000);
         Due.state("at the end of the first BLOCK", joined, 4, 0, 0, 0, 3, 0, 0, 3, 3000);
         Due.is("its joint", joined.joint(0), 800);
-        MillDesk last = Due.with("X3");
+        Desk last = Due.with("X3");
         last.trip(0, 3);
         last.start();
         last.advance(3000);
         Due.state("at the end of the last BLOCK", last, 4, 0, 0, 0, 3, 0, 0, 3, 3000);
         Due.yes("stop", last.stop());
-        MillDesk waits = Due.with("X3 M0");
+        Desk waits = Due.with("X3 M0");
         waits.trip(0, 3);
         waits.start();
         waits.advance(3000);
         Due.is("TRIPPED before the PAUSE", waits.state(0), 4);
-        MillDesk two = Due.with("X100");
+        Desk two = Due.with("X100");
         two.set(3, 2000);
         two.set(4, 200);
         two.trip(0, 12);
@@ -369,7 +360,7 @@ public final class RunTest {
     }
 
     private static void switches() {
-        MillDesk desk = Due.with("X9 Y3");
+        Desk desk = Due.with("X9 Y3");
         Due.no("axis -1", desk.trip(-1, 1));
         Due.no("axis 3", desk.trip(3, 1));
         Due.no("the least axis", desk.trip(Integer.MIN_VALUE, 1));
@@ -390,7 +381,7 @@ public final class RunTest {
         desk.start();
         Due.is("along other axes alone, then to it again", desk.advance(3000), 17);
         Due.is("TRIPPED", desk.state(0), 4);
-        MillDesk round = Due.with("X12 Y10 / G3 F500 I-2");
+        Desk round = Due.with("X12 Y10 / G3 F500 I-2");
         round.trip(1, 10);
         round.start();
         round.advance(3000);
@@ -400,7 +391,7 @@ public final class RunTest {
         round.advance(3000);
         Due.state("TRIPPED on the way round", round, 4, 0, 0, 1, 6, 6);
         Due.at("TRIPPED on the way round", round, 8, 10, 0);
-        MillDesk later = Due.started("X9 Z9");
+        Desk later = Due.started("X9 Z9");
         later.advance(20);
         int z = later.at(2);
         Due.yes("while it RUNS", later.trip(2, z));
@@ -412,7 +403,7 @@ public final class RunTest {
     // ---- promises 12 and 13 ----
 
     private static void asking() {
-        MillDesk desk = Due.started("X1 Y2 Z3");
+        Desk desk = Due.started("X1 Y2 Z3");
         desk.advance(100);
         Due.at("at", desk, 1, 2, 3);
         int[] none = {-1, 3, Integer.MIN_VALUE, Integer.MAX_VALUE};
@@ -423,7 +414,7 @@ public final class RunTest {
         for (int what : others) {
             Due.is("state(" + what + ")", desk.state(what), MillDesk.BAD);
         }
-        MillDesk runs = quick("X3 / G4 P7 / X4 M0");
+        Desk runs = Due.quick("X3 / G4 P7 / X4 M0");
         Due.state("started", runs, 1, 0, 0, 0, 0, 3, 0, 0, 0);
         runs.advance(3);
         Due.state("1200 gone", runs, 1, 0, 600, 0, 1, 2, 0, 1, 3);
@@ -446,7 +437,7 @@ public final class RunTest {
     // ---- promise 15 ----
 
     private static void joints() {
-        MillDesk desk = Due.with("G1 F700 X10 / F600 X20 / F650 X30 / F500 X40 / X50 / F400 X60 / F300 X70 / X80");
+        Desk desk = Due.with("G1 F700 X10 / F600 X20 / F650 X30 / F500 X40 / X50 / F400 X60 / F300 X70 / X80");
         desk.set(6, 1);
         Due.is("joint while it STANDS", desk.joint(0), MillDesk.BAD);
         desk.start();
@@ -481,14 +472,14 @@ public final class RunTest {
     }
 
     private static void joint(String program, int... wants) {
-        MillDesk desk = Due.started(program);
+        Desk desk = Due.started(program);
         for (int k = 0; k < wants.length; k++) {
             Due.is("joint(" + k + ") of " + program, desk.joint(k), wants[k]);
         }
     }
 
     private static void bend(String program, int bend, int want) {
-        MillDesk desk = Due.with(program);
+        Desk desk = Due.with(program);
         desk.set(5, bend);
         desk.start();
         Due.is("joint of " + program + " with BEND " + bend, desk.joint(0), want);
@@ -539,17 +530,17 @@ public final class RunTest {
     // ---- promise 16 ----
 
     private static void beginnings() {
-        MillDesk nothing = Due.started("G92 X0 / G4 P0 / F100 / X0 / G91 X0 / M2 / X5");
+        Desk nothing = Due.started("G92 X0 / G4 P0 / F100 / X0 / G91 X0 / M2 / X5");
         Due.state("a program without anything", nothing, 0, 0, 0, -1, 0, 0, 0, 0, 0);
         Due.is("does nothing", nothing.advance(100), 0);
-        MillDesk dwells = Due.started("F100 / G4 P6 / X5");
+        Desk dwells = Due.started("F100 / G4 P6 / X5");
         Due.state("a DWELL first", dwells, 2, 0, 0, 1, 0, 0, 6, 0, 0);
-        MillDesk waits = Due.started("G20 / G4 P0 M0 / X5");
+        Desk waits = Due.started("G20 / G4 P0 M0 / X5");
         Due.state("a PAUSE first", waits, 3, 0, 0, 1, 0, 0, 0, 0, 0);
         Due.yes("resume", waits.resume());
         Due.state("the way behind a PAUSE", waits, 1, 0, 0, 2, 0, 25, 0, 0, 0);
         Due.paces("the way behind a PAUSE", waits, 20);
-        MillDesk zero = Due.started("X0 M0 / G4 P3 M2 / X1");
+        Desk zero = Due.started("X0 M0 / G4 P3 M2 / X1");
         Due.state("no way, but its PAUSE", zero, 3, 0, 0, 0, 0, 0, 0, 0, 0);
         zero.resume();
         Due.state("the DWELL behind a PAUSE", zero, 2, 0, 0, 1, 0, 0, 3, 0, 0);
@@ -558,7 +549,7 @@ public final class RunTest {
     }
 
     private static void dwelling() {
-        MillDesk desk = Due.started("G4 P2 / G4 P1 / X1 / G4 P1 M0 / G4 P1");
+        Desk desk = Due.started("G4 P2 / G4 P1 / X1 / G4 P1 M0 / G4 P1");
         Due.state("first", desk, 2, 0, 0, 0, 0, 0, 2);
         desk.advance(1);
         Due.state("a tick", desk, 2, 0, 0, 0, 0, 0, 1);
