@@ -16,6 +16,7 @@ public final class CallEdgeTest {
         fullLine();
         fullProgram();
         settingEdges();
+        settingsApart();
         limitEdges();
         limitFromTheTool();
         fastestEdges();
@@ -241,6 +242,24 @@ public final class CallEdgeTest {
             Due.no("set(-1, " + v + ")", desk.set(-1, v));
             Due.no("set(7, " + v + ")", desk.set(7, v));
             Due.no("set(8, " + v + ")", desk.set(8, v));
+        }
+    }
+
+    private static void settingsApart() {
+        Due.says("set: Sets 0, 1, 2 the LIMIT of an axis, 3 FASTEST, 4 GAIN, 5 BEND, 6 AHEAD (each that alone)");
+        int[] values = {300, 400, 500, 1500, 77, 555, 5};
+        for (int last = 0; last < 7; last++) {
+            int late = last;
+            Twins.same("setting " + late + " last, and in order", d -> {
+                for (int what = 0; what < 7; what++) {
+                    if (what != late) d.set(what, values[what]);
+                }
+                Due.yes("set " + late, d.set(late, values[late]));
+            }, d -> {
+                for (int what = 0; what < 7; what++) {
+                    d.set(what, values[what]);
+                }
+            });
         }
     }
 

@@ -103,6 +103,17 @@ public final class TermsEdgeTest {
         }
         Due.is("LINE 29 is WRONG", wrong.check(), 296);
         Due.check("X1001 / X1001", 6);
+        Desk round = Due.with("X20 Y20");
+        for (int i = 1; i < 29; i++) {
+            round.word(true, 8, 9);
+        }
+        round.word(true, 0, 3);
+        round.word(false, 8, 500);
+        round.word(false, 6, -5);
+        Due.is("check of a way round in LINE 29", round.check(), 0);
+        Due.yes("start", round.start());
+        Due.is("a way round in LINE 29", round.advance(3000), 20 + 28);
+        Due.at("a way round in LINE 29", round, 20, 20, 0);
         Twins.refused("a LINE too many", d -> {
             for (int i = 0; i < 30; i++) {
                 d.word(true, 2, i);
@@ -126,6 +137,20 @@ public final class TermsEdgeTest {
         Due.is("behind the seventh word", desk.after(0, 2), 40);
         Due.is("behind the eighth word", desk.after(0, 0), 45);
         Due.is("the words of the next LINE are its own", desk.check(), 12);
+        // The words of a LINE end with it: neither the next LINE's nor those of a PROGRAM before count.
+        Due.check("G1 G18 G20 G90 F500 Y7 Z8 X9 / G5", 11);
+        Due.check("X1 / X2 / G5", 21);
+        Desk again = Due.with("X1 Y1 G5 / X2 X2");
+        Due.check("words of a PROGRAM before", again, "X1 Y1", 0);
+        Due.check("words of a PROGRAM before", again, "X1 / X2", 0);
+        Desk last = new Desk();
+        for (int i = 0; i < 30; i++) {
+            last.word(true, 8, 9);
+        }
+        for (int letter = 1; letter < 8; letter++) {
+            Due.is("eight words of LINE 29", last.word(false, letter, 2), letter + 1);
+        }
+        Due.is("check of eight words in LINE 29", last.check(), 293);
         Twins.refused("a ninth word", d -> Due.load(d, "G1 G17 G20 G90 G54 F500 X3 Y4"),
             d -> d.word(false, 1, 0), MillDesk.FULL);
         Twins.refused("a ninth word of LINE 1", d -> Due.load(d, "X1 / G1 G17 G20 G90 G54 F500 X3 Y4"),

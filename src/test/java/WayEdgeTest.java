@@ -317,6 +317,21 @@ public final class WayEdgeTest {
         joints("Z30 / G18 G3 F500 I10 Z40 X10 / G1 X50", 500, 500, 0);
         joints("Y30 / G19 G3 F500 K10 Y40 Z10 / G1 Z50", 500, 500, 0);
         joints("Z30 / G18 G3 F500 I10 Z40 X10 / G1 Y50", 500, 0, 0);
+        // With BEND 0 only what is just in line is gone at more than 0: at the start and the end of quarters.
+        for (int plane = 0; plane < 3; plane++) {
+            String first = AXES[PLANES[plane][0]];
+            String second = AXES[PLANES[plane][1]];
+            String off = CENTRES[PLANES[plane][1]];
+            String g = "F500 G" + (17 + plane);
+            bend(g + " G1 " + first + "30 / G3 " + off + "10 " + first + "40 " + second + "10", 0, 500);
+            bend(g + " G1 " + first + "30 / G2 " + off + "10 " + first + "20 " + second + "10", 0, 0);
+            bend(g + " G3 " + off + "10 " + first + "10 " + second + "10 / G1 " + second + "30", 0, 500);
+            bend(g + " G3 " + off + "10 " + first + "10 " + second + "10 / G1 " + first + "30", 0, 0);
+            String in = CENTRES[PLANES[plane][0]];
+            bend(g + " G1 " + second + "30 / G2 " + in + "10 " + first + "10 " + second + "40", 0, 500);
+            bend(g + " G2 " + in + "10 " + first + "10 " + second + "10 / G1 " + first + "30", 0, 500);
+            bend(g + " G2 " + in + "10 " + first + "10 " + second + "10 / G1 " + second + "30", 0, 0);
+        }
         // 15, 10 and 0, 5: c 50, m 90. Then -3, 4 and 0, 8: c 32, m 40. Then 0, 8 and -9, 3: c 24, m 75.
         joints("X15 Y10 / G3 F1000 I-5 X14 Y13 / G1 Y21 / X5 Y24", 500, 800, 188, 0);
     }
@@ -462,6 +477,10 @@ public final class WayEdgeTest {
         Due.state("1 is left", odd, 1, 0, 200, 0, 4, 1, 0, 4, 9);
         Due.is("the last tick", odd.advance(1), 1);
         Due.state("the end", odd, 0, 0, 0, -1, 0, 0, 0, 5, 10);
+        // 801 + 601 + 401 + 201 + 1 is one more than r 2004; 601 + 401 + 201 + 1 is just r 1204.
+        for (int ahead = 1; ahead <= 3; ahead++) {
+            Due.paces("AHEAD " + ahead, with("G1 F996 X5", 2000, 200, ahead), 200, 400, 600, 800, 996, 800, 601, 401, 201, 0);
+        }
         // At r 400, 300 + 100; at r 100, 100.
         Due.paces("one STEP", with("X1", 2000, 200, 3), 200, 400, 300, 0);
         Due.paces("one STEP and GAIN 20", with("G1 F60 X1", 800, 20, 3), 20, 40, 60, 60, 60);
@@ -500,7 +519,10 @@ public final class WayEdgeTest {
         String slow = "G1 F1000 X2 / X4 / F100 X9";
         Desk seen = with(slow, 2000, 200, 3);
         Desk near = with(slow, 2000, 200, 1);
-        Due.paces("AHEAD 3", seen, 200, 400, 600, 800);
+        // From 2000 on the end before the slow BLOCK is 2000, 1200, 600 and 200 far, and counts 100.
+        Due.paces("AHEAD 3", seen, 200, 400, 600, 800, 800, 600, 400, 200, 100);
+        // The same, where the second BLOCK is short, so that its end is the second of those ahead.
+        Due.paces("AHEAD 3", with("G1 F1000 X3 / X4 / F100 X9", 2000, 200, 3), 200, 400, 600, 800, 800, 600, 400, 200, 100);
         // At r 800, 466 + 266 + 66 is 798.
         Due.paces("AHEAD 1", near, 200, 400, 600, 466);
     }
