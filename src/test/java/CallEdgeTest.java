@@ -247,7 +247,7 @@ public final class CallEdgeTest {
 
     private static void settingsApart() {
         Due.says("set: Sets 0, 1, 2 the LIMIT of an axis, 3 FASTEST, 4 GAIN, 5 BEND, 6 AHEAD (each that alone)");
-        int[] values = {300, 400, 500, 1500, 77, 555, 5};
+        int[] values = {300, 400, 500, 1500, 77, 555, 2};
         for (int last = 0; last < 7; last++) {
             int late = last;
             Twins.same("setting " + late + " last, and in order", d -> {

@@ -129,13 +129,11 @@ public final class TermsEdgeTest {
             Due.is("word " + (i + 1), desk.word(i == 0, eight[i][0], eight[i][1]), i + 1);
         }
         Due.is("a ninth", desk.word(false, 1, 0), MillDesk.FULL);
-        for (int i = 0; i < 8; i++) {
-            Due.is("word " + (i + 1) + " of LINE 1", desk.word(i == 0, i == 0 ? 0 : eight[i][0], i == 0 ? 0 : 3), i + 1);
-            if (i == 0) Due.is("check between", desk.check(), 0);
-        }
-        Due.is("behind the first word", desk.after(0, 1), 35);
-        Due.is("behind the seventh word", desk.after(0, 2), 40);
-        Due.is("behind the eighth word", desk.after(0, 0), 45);
+        Due.is("the first of another LINE", desk.word(true, 0, 0), 1);
+        Due.is("the second of another LINE", desk.word(false, 0, 3), 2);
+        Due.is("by the sixth word", desk.after(0, 1), 35);
+        Due.is("by the seventh word", desk.after(0, 2), 40);
+        Due.is("by the eighth word", desk.after(0, 0), 45);
         Due.is("the words of the next LINE are its own", desk.check(), 12);
         // The words of a LINE end with it: neither the next LINE's nor those of a PROGRAM before count.
         Due.check("G1 G18 G20 G90 F500 Y7 Z8 X9 / G5", 11);
@@ -367,6 +365,10 @@ public final class TermsEdgeTest {
         Due.leads("X5 Y6 Z7 / G92 X1 / X0 Y0 Z0", 5, 6, 7, 5, 6, 7, 4, 0, 0);
         Due.leads("X5 Y6 Z7 / G92 Y1 / X0 Y0 Z0", 5, 6, 7, 5, 6, 7, 0, 5, 0);
         Due.leads("X5 Y6 Z7 / G92 Z-1 / X0 Y0 Z0", 5, 6, 7, 5, 6, 7, 0, 0, 8);
+        // Whatever the WAY is, and by the ORIGIN and SCALE of its own LINE.
+        Due.leads("X10 / G91 G92 X4 / X3 / G90 X3", 10, 0, 0, 10, 0, 0, 13, 0, 0, 9, 0, 0);
+        Due.leads("X10 / G92 X0 G55 / X5 / X5 G54", 10, 0, 0, 10, 0, 0, 15, 0, 0, 5, 0, 0);
+        Due.leads("X10 / G92 X1 G20 / X0 G21 / G92 X0 / X1", 10, 0, 0, 10, 0, 0, 5, 0, 0, 5, 0, 0, 6, 0, 0);
         // The greatest COORDINATES: ORIGINS far outside, and back to places inside.
         Due.leads("G20 G92 X3000 / X3000 / G21 G92 X0 / X9", 0, 0, 0, 0, 0, 0, 0, 0, 0, 9, 0, 0);
         Due.leads("G20 G92 X-3000 / X-3000 / X-2999 / X-2800", 0, 0, 0, 0, 0, 0, 5, 0, 0, 1000, 0, 0);
