@@ -218,7 +218,7 @@ public final class LanguageTest {
         @Override
         public Void visitMethodInvocation(MethodInvocationTree call, Void none) {
             String called = call.getMethodSelect().toString();
-            // The constructor's call of Object's own stands in no text.
+            // The text alone is read, so the call of Object's constructor that no text tells is not among these.
             Due.yes("rule 3: " + called + " called in " + here() + " is of the class", CALLS.containsKey(called));
             if (CALLS.containsKey(called) && !method.isEmpty()) CALLS.get(method).add(called);
             for (ExpressionTree argument : call.getArguments()) {
